@@ -1045,6 +1045,8 @@ public final class CutStones {
         int wide = 0;
         int high = 0;
         int heft = 0;
+        /** The columns with a cell that is not nothing, as bits. */
+        int filledColumns = 0;
         /** The columns and the row where what is not nothing begins and ends. */
         int firstColumn = 0;
         int lastColumn = 0;
@@ -1071,6 +1073,7 @@ public final class CutStones {
 
         void measureUp() {
             heft = 0;
+            filledColumns = 0;
             firstColumn = SPAN;
             lastColumn = 0;
             lastRow = 0;
@@ -1079,6 +1082,7 @@ public final class CutStones {
                     int cell = cellAt(x, y);
                     if (cell != NOTHING) {
                         heft += WEIGHTS[cell];
+                        filledColumns |= 1 << x;
                         firstColumn = Math.min(firstColumn, x);
                         lastColumn = Math.max(lastColumn, x);
                         lastRow = y;
@@ -1101,15 +1105,6 @@ public final class CutStones {
                 return number >= 0 && number < wide;
             }
             return (lamp == RIGHT || lamp == LEFT) && number >= 0 && number < high;
-        }
-
-        boolean hasStuffIn(int x) {
-            for (int y = 0; y < high; y++) {
-                if (cellAt(x, y) != NOTHING) {
-                    return true;
-                }
-            }
-            return false;
         }
 
         boolean isMirrored() {
@@ -1306,7 +1301,7 @@ public final class CutStones {
                 flawSteps++;
             } else if (cell <= LAST_HALF) {
                 goOut(slant);
-                way = SIDE_SUMS[cell] - (way ^ TURN_ROUND);
+                way = (SIDE_SUMS[cell] - (way ^ TURN_ROUND)) & 3;
             }
             int nextX = x + WAY_X[way];
             int nextY = y + WAY_Y[way];
@@ -1396,7 +1391,7 @@ public final class CutStones {
             }
             int dark = 0;
             for (int i = 0; i < wide; i++) {
-                if (light.upward[i] * 10 < greatest && cut.hasStuffIn(i)) {
+                if (light.upward[i] * 10 < greatest && isTold(cut.filledColumns, i)) {
                     dark++;
                 }
             }
