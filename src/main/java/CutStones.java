@@ -436,7 +436,10 @@ public final class CutStones {
         }
     }
 
-    /** The first of the dearest CUTS that can lie in the columns from .. to - 1 of a ROUGH; NONE: none. */
+    /**
+     * The first of the dearest CUTS that can lie in the columns from .. to - 1 of a ROUGH; NONE: none.
+     * THE TWO are the dearest ones of their sides, as neither's PRICE depends on the other.
+     */
     private int dearestWithin(int cuts, Drawing ground, int from, int to) {
         int best = NONE;
         for (int cut = 0; cut < house.cutCount; cut++) {
@@ -674,6 +677,7 @@ public final class CutStones {
                     case ROUGH: readRough(tape); break;
                     case GRADE: readGrade(tape); break;
                     case PRICE: readPrice(tape); break;
+                    // with any other token no TELL begins: it is SYNTAX there, as it is no 'stuff'
                     default: readStuff(tape); break;
                 }
             }

@@ -33,6 +33,8 @@ public final class PromisesTest {
         nextTest();
         counts();
         fullHouse();
+        tapeEnds();
+        farStones();
         System.out.println(wrong == 0 ? "all promises are kept" : wrong + " answers are not as due");
         if (wrong != 0) {
             System.exit(1);
@@ -292,6 +294,8 @@ public final class PromisesTest {
         fault("cut a '#; rough b '#; grade c if 1 < 2; price @b 1;", 3);
         fault("price a 1; grade @a if 1 < 2;", 3);
         fault("cut a '#; cut ab '#; cut b '#; rough aa '#;", 0);
+        fault("cut b '#; cut bb '#; cut ba '#; cut ab '#; cut z '#; cut zz '#; rough az '#; rough zzzzzzzz '#; rough zzzzzzza '#; rough azzzzzzz '#;", 0);
+        fault("cut zzzzzzzz '#; cut zzzzzzz '#; cut @zzzzzzzz '#;", 3);
         fault("cut a '#; cut a '#; @;", 1);
         fault("stuff a: 1000 1000 eats 1000;", 0);
         fault("stuff a: @1001 1;", 5);
@@ -853,6 +857,48 @@ public final class PromisesTest {
         due("count(LOW)", x.count(LOW), NONE);
         due("count(HIGH)", x.count(HIGH), NONE);
         due("count(110)", x.count(110), NONE);
+    }
+
+    /** Bytes that went off again do not count, and the tape may be full. */
+    private static void tapeEnds() {
+        promise = "3, 4";
+        cutOff("grade a if 1 <= 2;  ", 6, 1, 14);
+        cutOff("stuff abcdefghi:1 1;", 6, 1, 14);
+        cutOff("stuff abcde: 12345; ", 3, 1, 17);
+        cutOff("cut a '#;'##########", 11, 0, NONE);
+        cutOff("cut a '#; abc       ", 11, 0, NONE);
+        cutOff("cut a '#;           ", 12, 1, 8);
+        fault(times(1991, " ") + "cut a '#;", 0);
+        fault(times(1992, " ") + "cut a '#@", 1);
+        fault(times(1999, " ") + "@<", 1);
+        fault(times(1999, "\n") + "@'", 1);
+        fault(times(1986, " ") + "grade a if 1 <@", 1);
+    }
+
+    private static void cutOff(String twenty, int n, int want, int place) {
+        CutStones x = new CutStones();
+        feedText(x, twenty);
+        due("back(" + n + ") of " + twenty, x.back(n), 20 - n);
+        due("read of " + twenty, x.read(), want);
+        due("place of " + twenty, x.place(), place);
+    }
+
+    /** Light goes through all the nothing that there can be. */
+    private static void farStones() {
+        promise = "9";
+        String none = times(11, ".");
+        CutStones x = told("stuff s: 1000 0; cut a '" + none + "#; cut b '#" + none + "; cut c" + times(11, " '.") + " '#; cut d"
+                + times(11, " '#.") + " '#2;");
+        due("from the left", x.ray(0, 0, 0, 3, 0, 10), 1);
+        due("step", x.step(0), 11);
+        due("from the right", x.ray(1, 0, 0, 1, 0, 10), 1);
+        due("step", x.step(0), 0);
+        due("from above", x.ray(2, 0, 0, 0, 0, 10), 1);
+        due("step", x.step(0), 132);
+        due("from above", x.ray(3, 0, 0, 0, 1, 10), 1);
+        due("step", x.step(0), 133);
+        due("meets none", x.ray(0, 0, 0, 0, 10, 10), 0);
+        sparks(x, 0, 0, 0, 0, 10, 0, 0);
     }
 
     /** All that there is room for, in drawings of twelve by twelve. */
