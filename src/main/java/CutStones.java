@@ -503,9 +503,10 @@ public final class CutStones {
         return open;
     }
 
+    /** How far apart the BRIGHT of the open STUFFS lie; all of them are from 0 to WHOLE a column. */
     private int spread(int cut, int colour, int open) {
-        int greatest = Integer.MIN_VALUE;
-        int least = Integer.MAX_VALUE;
+        int greatest = 0;
+        int least = WHOLE * SPAN;
         for (int stuff = 0; stuff < house.stuffCount; stuff++) {
             if (isTold(open, stuff)) {
                 int own = brightOf(cut, stuff, colour);

@@ -14,6 +14,7 @@ public final class SourceRulesTest {
     private static final String[] BANNED = {
         "throw", "throws", "try", "catch", "synchronized", "assert", "->", "::", "Exception", "System.out",
         "Object ", "HashMap", "Math.\\w+Exact", "@Override", "\\+ \"", "\" \\+", "interface ", "volatile",
+        "M(IN|AX)_VALUE",
     };
     private static final int MOST_METHOD_LINES = 60;
     private static final int MOST_PARAMETERS = 7;
