@@ -1,15 +1,5 @@
-import java.nio.charset.StandardCharsets;
-import java.util.Arrays;
-
 /** Each promise of the document by hand: ordinary inputs, the edges that it names, wrong inputs. */
-public final class PromisesTest {
-    private static final int NONE = CutStones.NONE;
-    private static final int LOW = Integer.MIN_VALUE;
-    private static final int HIGH = Integer.MAX_VALUE;
-
-    private static int wrong = 0;
-    private static String promise = "";
-
+public final class PromisesTest extends Trial {
     public static void main(String[] args) {
         newObject();
         feedAndBack();
@@ -35,83 +25,11 @@ public final class PromisesTest {
         fullHouse();
         tapeEnds();
         farStones();
-        System.out.println(wrong == 0 ? "all promises are kept" : wrong + " answers are not as due");
-        if (wrong != 0) {
-            System.exit(1);
-        }
-    }
-
-    private static void due(String call, int got, int want) {
-        if (got != want) {
-            wrong++;
-            System.out.println(promise + ": " + call + " answered " + got + ", due is " + want);
-        }
-    }
-
-    private static void feedText(CutStones x, String text) {
-        byte[] bytes = Arrays.copyOf(text.getBytes(StandardCharsets.ISO_8859_1), (text.length() + 19) / 20 * 20);
-        for (int i = 0; i < bytes.length; i += 20) {
-            int[] w = new int[5];
-            for (int k = 0; k < 20; k++) {
-                w[k / 4] = w[k / 4] << 8 | bytes[i + k] & 255;
-            }
-            x.feed(w[0], w[1], w[2], w[3], w[4]);
-        }
-        x.back(bytes.length - text.length());
-    }
-
-    private static CutStones told(String text) {
-        CutStones x = new CutStones();
-        feedText(x, text);
-        due("read of " + text, x.read(), 0);
-        return x;
-    }
-
-    private static String times(int n, String part) {
-        StringBuilder all = new StringBuilder();
-        for (int i = 0; i < n; i++) {
-            all.append(part);
-        }
-        return all.toString();
-    }
-
-    /** The FAULT's place is marked by an @ that does not belong to the text; without it there is none. */
-    private static void fault(String marked, int want) {
-        CutStones x = new CutStones();
-        String text = marked.replace("@", "");
-        feedText(x, text);
-        String shown = marked.length() > 120 ? marked.substring(0, 120) + ".." : marked;
-        due("read of " + shown, x.read(), want);
-        due("place of " + shown, x.place(), marked.indexOf('@'));
-        due("bytes behind read of " + shown, x.count(6), 0);
-    }
-
-    private static void sparks(CutStones x, int... want) {
-        for (int i = 0; i < 7; i++) {
-            due("spark(" + i + ")", x.spark(i), want[i]);
-        }
-        due("spark(7)", x.spark(7), NONE);
-        due("spark(-1)", x.spark(-1), NONE);
-    }
-
-    private static void sights(CutStones x, int... want) {
-        for (int i = 0; i < 9; i++) {
-            due("seen(" + i + ")", x.seen(i), want[i]);
-        }
-        due("seen(9)", x.seen(9), NONE);
-        due("seen(-1)", x.seen(-1), NONE);
-    }
-
-    private static void lying(CutStones x, int... want) {
-        for (int i = 0; i < 7; i++) {
-            due("laid(" + i + ")", x.laid(i), want[i]);
-        }
-        due("laid(7)", x.laid(7), NONE);
-        due("laid(-1)", x.laid(-1), NONE);
+        end("all promises are kept");
     }
 
     private static void newObject() {
-        promise = "1";
+        begin("promise 1");
         CutStones x = new CutStones();
         for (int i = 0; i <= 6; i++) {
             due("count(" + i + ")", x.count(i), 0);
@@ -143,7 +61,7 @@ public final class PromisesTest {
     }
 
     private static void feedAndBack() {
-        promise = "2, 3";
+        begin("promise 2, 3");
         CutStones x = new CutStones();
         due("back(1)", x.back(1), NONE);
         due("back(0)", x.back(0), 0);
@@ -170,7 +88,7 @@ public final class PromisesTest {
     }
 
     private static void syntax() {
-        promise = "4, 5 SYNTAX";
+        begin("promise 4, 5 SYNTAX");
         fault("", 0);
         fault(" \n\t\r", 0);
         fault(" \n@\u000b", 1);
@@ -243,7 +161,7 @@ public final class PromisesTest {
     }
 
     private static void room() {
-        promise = "4, 5 ROOM";
+        begin("promise 4, 5 ROOM");
         String four = "stuff a: 1 1; stuff b: 1 1; stuff c: 1 1; stuff d: 1 1; ";
         fault(four, 0);
         fault(four + "@stuff e: 1 1;", 2);
@@ -289,7 +207,7 @@ public final class PromisesTest {
     }
 
     private static void twiceAndWrong() {
-        promise = "4, 5 TWICE and WRONG";
+        begin("promise 4, 5 TWICE and WRONG");
         fault("stuff a: 1 1; cut @a '#;", 3);
         fault("cut a '#; rough b '#; grade c if 1 < 2; price @b 1;", 3);
         fault("price a 1; grade @a if 1 < 2;", 3);
@@ -319,7 +237,7 @@ public final class PromisesTest {
     }
 
     private static void faultsChangeNothing() {
-        promise = "4, 5";
+        begin("promise 4, 5");
         CutStones x = told("stuff a: 500 0; cut b '#; rough c '##; price d 7;");
         x.ray(0, 0, 0, 0, 0, 1000);
         x.shine(0, 0, 0, 1000, 0, 0, 1, 0);
@@ -356,7 +274,7 @@ public final class PromisesTest {
     }
 
     private static void drawings() {
-        promise = "6, 7, 8";
+        begin("promise 6, 7, 8");
         CutStones x = told("cut a '.12 '34# 'x..; cut b '2#1 '.x.; cut c '.1.; cut d '33; cut e '43; cut f '#x; rough h '12;");
         due("weight a", x.weight(false, 0), 8);
         due("weight b", x.weight(false, 1), 6);
@@ -388,7 +306,7 @@ public final class PromisesTest {
     }
 
     private static void rays() {
-        promise = "9, 10, 11";
+        begin("promise 9, 10, 11");
         CutStones x = told("stuff g: 500 0, 1000 0; cut a '#; cut b '.#. '#.# '...; cut c '#3 '#4;");
         due("ray", x.ray(0, 0, 0, 0, 0, 1000), 300);
         // in 500; down 250, 62, 16, 4, 1, up 125, 31, 8, 2; one is left
@@ -437,7 +355,7 @@ public final class PromisesTest {
     }
 
     private static void halves() {
-        promise = "9, 11 halves";
+        begin("promise 9, 11 halves");
         CutStones x = told("stuff g: 1000 300; cut a '1; cut b '2; cut c '3; cut d '4;");
         x.ray(0, 0, 0, 0, 0, 1000);
         sparks(x, 0, 0, 300, 700, 0, 0, 0);
@@ -475,7 +393,7 @@ public final class PromisesTest {
     }
 
     private static void flawsAndEnds() {
-        promise = "9, 11 flaws";
+        begin("promise 9, 11 flaws");
         CutStones x = told("stuff g: 1000 0; stuff h: 1000 0 eats 333; stuff i: 0 0; stuff j: 1000 0 eats 1000; cut a 'x; cut b '#x#;");
         due("200 without", x.ray(0, 0, 0, 0, 0, 1000), 1);
         sparks(x, 0, 0, 800, 0, 0, 200, 0);
@@ -499,7 +417,7 @@ public final class PromisesTest {
     }
 
     private static void shines() {
-        promise = "12, 13, 14";
+        begin("promise 12, 13, 14");
         CutStones x = told("stuff g: 500 0; cut a '#.#; cut b 'x;");
         due("shine", x.shine(0, 0, 0, 1000, 0, 0, 2, 2), 166);
         sights(x, 166, 333, 1, 166, 0, 1500, 0, 1, 2000);
@@ -539,7 +457,7 @@ public final class PromisesTest {
     }
 
     private static void darkAndUneven() {
-        promise = "13 DARK, UNEVEN";
+        begin("promise 13 DARK, UNEVEN");
         // from the right both rows are turned up, in columns 2 and 1
         CutStones x = told("stuff g: 1000 0; cut a '#.2 '#2#;");
         due("shine", x.shine(0, 0, 0, 1000, 0, 1000, 1, 0), 2000);
@@ -562,7 +480,7 @@ public final class PromisesTest {
     }
 
     private static void grades() {
-        promise = "15";
+        begin("promise 15");
         CutStones x = told("stuff s: 500 0; cut a '#.#; grade g if bright == 333; grade h if leak < 666 or dark == 1 and not uneven != 166;"
                 + "grade i if weight == 4 and flaws == 0 and wide == 3 and colour == 2; grade j if leak <= 666;");
         due("none is remembered", x.grade(), NONE);
@@ -599,7 +517,7 @@ public final class PromisesTest {
     }
 
     private static void prices() {
-        promise = "16";
+        begin("promise 16");
         due("plain", price("price b 7;"), 7);
         due("no PRICE", price(""), 0);
         due("none holds", price("price b 7 if 2 < 1;"), 0);
@@ -623,7 +541,7 @@ public final class PromisesTest {
     }
 
     private static void fitting() {
-        promise = "17, 18";
+        begin("promise 17, 18");
         CutStones x = told("cut a '#; cut b '1; cut c 'x; cut d '.2; cut e '#. '.#; rough r '.#x '123 '4##;");
         String[] fitting = {
             "010000011", // full: on full
@@ -660,7 +578,7 @@ public final class PromisesTest {
     }
 
     private static void dearest() {
-        promise = "19, 21";
+        begin("promise 19, 21");
         CutStones x = told("stuff s: 500 0, 0 0; cut a '#; cut b '##; cut c '##; cut d '1; cut e '3; rough r '.#. '### '1x2;"
                 + "rough t '1; price p weight * 10;");
         due("two cells", x.dearest(7, 0, 0), 40);
@@ -695,7 +613,7 @@ public final class PromisesTest {
     }
 
     private static void two() {
-        promise = "20, 21";
+        begin("promise 20, 21");
         CutStones x = told("stuff s: 500 0; cut a '#; cut b '##; cut c '.#; rough r '####; rough t '#.; rough u '#; rough v '.### '####;"
                 + "price p weight * 10;");
         due("two of b", x.two(3, 0, 0), 80);
@@ -730,7 +648,7 @@ public final class PromisesTest {
     }
 
     private static void tests() {
-        promise = "22, 24, 25, 26";
+        begin("promise 22, 24, 25, 26");
         CutStones x = told("stuff s: 500 0; stuff t: 1000 0, 500 0; stuff u: 0 0; cut a '#; cut b '##;");
         due("bright", x.bright(0, 0, 0), 166);
         due("bright", x.bright(1, 0, 0), 332);
@@ -793,7 +711,7 @@ public final class PromisesTest {
     }
 
     private static void voids() {
-        promise = "23, 25";
+        begin("promise 23, 25");
         CutStones x = told("stuff s: 500 0; cut a '#;");
         due("no test", x.annul(0), NONE);
         due("test", x.test(0, 0, 0), 0);
@@ -821,7 +739,7 @@ public final class PromisesTest {
     }
 
     private static void nextTest() {
-        promise = "27";
+        begin("promise 27");
         CutStones x = told("stuff s: 500 0, 1000 0; stuff t: 1000 0, 1000 0, 500 0; stuff u: 0 0, 0 0, 0 0, 500 0; cut a '#; cut b '##; cut c '##;");
         // of a colour 0: 166 0 0; 1: 0 0 0; 2: 0 166 0; 3: 0 166 166; of b twice as many
         due("the furthest", x.next(0), 4);
@@ -842,7 +760,7 @@ public final class PromisesTest {
     }
 
     private static void counts() {
-        promise = "28";
+        begin("promise 28");
         CutStones x = told("stuff s: 500 0; stuff t: 1 1; cut a '#; cut b '## '## '##; cut c '1; rough r '#### '####; grade g if 1 < 2;"
                 + "grade h if 1 < 2; grade i if 1 < 2; grade j if 1 < 2; price p 1; price q 1; price u 1; price v 1; price w 1;");
         x.test(0, 0, 0);
@@ -861,7 +779,7 @@ public final class PromisesTest {
 
     /** Bytes that went off again do not count, and the tape may be full. */
     private static void tapeEnds() {
-        promise = "3, 4";
+        begin("promise 3, 4");
         cutOff("grade a if 1 <= 2;  ", 6, 1, 14);
         cutOff("stuff abcdefghi:1 1;", 6, 1, 14);
         cutOff("stuff abcde: 12345; ", 3, 1, 17);
@@ -885,7 +803,7 @@ public final class PromisesTest {
 
     /** Light goes through all the nothing that there can be. */
     private static void farStones() {
-        promise = "9";
+        begin("promise 9");
         String none = times(11, ".");
         CutStones x = told("stuff s: 1000 0; cut a '" + none + "#; cut b '#" + none + "; cut c" + times(11, " '.") + " '#; cut d"
                 + times(11, " '#.") + " '#2;");
@@ -903,7 +821,7 @@ public final class PromisesTest {
 
     /** All that there is room for, in drawings of twelve by twelve. */
     private static void fullHouse() {
-        promise = "all";
+        begin("promise all");
         String row = " '" + times(12, "#");
         String all = "cut a" + times(12, row) + "; rough b" + times(12, row) + "; rough c '1" + times(11, ".") + times(11, " '" + times(12, ".")) + ";"
                 + "stuff s: 900 0, 800 0, 700 0, 600 0;";
