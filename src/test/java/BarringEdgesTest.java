@@ -54,6 +54,15 @@ public final class BarringEdgesTest extends Trial {
         due("a VOID is no TEST", x.annul(1), NONE);
         due("the TEST behind it is one", x.annul(2), 3);
         due("count(5)", x.count(5), 4);
+        tell(x, "cut a '#;");
+        for (int i = 0; i < 4; i++) {
+            due("the TESTS are gone", x.annul(i), NONE);
+        }
+        due("count(5)", x.count(5), 0);
+        x.test(0, 0, 0);
+        for (int i = 1; i < 4; i++) {
+            due("the TESTS are gone", x.annul(i), NONE);
+        }
     }
 
     @Sentence("VOIDS of TESTS in one row with them.")
@@ -94,6 +103,9 @@ public final class BarringEdgesTest extends Trial {
             x.shine(0, 0, 0, 100000, 100000, 100000, 0, 0);
         }
         due("the SHINE is the one that was", x.seen(8), 200000);
+        // light from beside would go up
+        CutStones y = told("stuff s: 1000 0; cut a '1; cut b '2;");
+        due("nothing beside", y.bright(0, 0, 0) + y.bright(1, 0, 0), 0);
         due("twelve columns", told("stuff s: 500 0; cut a '############;").bright(0, 0, 0), 12 * 166);
     }
 
@@ -260,6 +272,10 @@ public final class BarringEdgesTest extends Trial {
         x.test(0, 0, 166);
         due("u is BARRED", x.left(1), 3);
         due("s and t: 0, 99, 498, 498", x.next(1), 10);
+        // by one alone: none and one, five and six
+        due("an own of 1", told("stuff s: 33 0; cut a '#;").bright(0, 0, 0), 1);
+        due("0 and 1", told("stuff s: 0 0, 33 0, 0 0; stuff t: 0 0; cut a '#;").next(0), 1);
+        due("5 and 6", told("stuff s: 500 0, 37 0, 500 0; stuff t: 500 0, 38 0, 500 0; cut a '#;").next(0), 1);
         // three STUFFS: the greatest less the least, not neighbours
         CutStones y = told("stuff s: 500 0, 500 0; stuff t: 0 0, 37 0; stuff u: 500 0, 38 0; stuff v: 37 0, 0 0; cut a '#;");
         due("166 less 0 both", y.next(0), 0);

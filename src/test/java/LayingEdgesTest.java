@@ -169,7 +169,9 @@ public final class LayingEdgesTest extends Trial {
         due("dearest", x.dearest(1, 0, 0), 332666);
         due("two", x.two(1, 0, 0), 665332);
         due("the SHINE is the one that was", x.seen(8), 1007);
-        due("grade", x.price(), 9000);
+        due("the PRICE by it", x.price(), 9000);
+        CutStones y = told("stuff s: 1000 0; cut a '1; cut b '2; rough r '12; price p bright;");
+        due("light from beside would go up", y.dearest(1, 0, 0) + y.dearest(2, 0, 0) + y.two(3, 0, 0), 0);
     }
 
     // ==== 20: the two

@@ -518,6 +518,11 @@ public final class LightEdgesTest extends Trial {
         CutStones x = told("stuff s: 500 0; cut a '#..#; cut b '#13x '....; cut c '.# '#. '..; cut d '############;");
         x.shine(0, 0, 0, 1000, 0, 0, 1, 0);
         due("columns of nothing", x.seen(2), 0);
+        CutStones y = told("stuff s: 500 0; cut a '.##.; cut b '.#.#.;");
+        y.shine(0, 0, 0, 1000, 0, 0, 1, 0);
+        due("columns of nothing at both ends", y.seen(2), 0);
+        y.shine(1, 0, 0, 1000, 0, 0, 0, 1);
+        due("columns of nothing at both ends", y.seen(2), 1);
         x.shine(0, 0, 0, 1000, 0, 0, 0, 0);
         due("one under a HEAD", x.seen(2), 1);
         x.shine(0, 0, 0, 1000, 0, 0, 0, 3);
@@ -661,6 +666,7 @@ public final class LightEdgesTest extends Trial {
         x.shine(0, 0, 0, 4200, 0, 0, 1, 0);
         due("the eighth", x.price(), 708);
         due("none holds: 0", lit("price p 5 if 2 < 1;").price(), 0);
+        due("none of eight holds: 0", lit(tells.toString().replace("bright", "9999") + "price ph 8 if 2 < 1;").price(), 0);
         due("no PRICE: 0", lit("").price(), 0);
         due("no COND", lit("price p 5; price q 6 if 1 < 2;").price(), 5);
         due("its own COND", lit("price p 5 if 2 < 1; price q 6 if 1 < 2;").price(), 6);
@@ -696,6 +702,57 @@ public final class LightEdgesTest extends Trial {
         worth("(0 - 7) / (0 - 2)", 3);
         worth("1 / 2", 0);
         worth("1 + (0 - 1) / 2", 1);
+    }
+
+    @Sentence("LIT: 'not' LIT | E ('==' | '!=' | '<' | '<=') E.")
+    static void promise15Comparisons() {
+        String[] signs = {"==", "!=", "<", "<="};
+        // of one less, the same, one more
+        boolean[][] want = {{false, true, false}, {true, false, true}, {true, false, false}, {true, true, false}};
+        for (int sign = 0; sign < 4; sign++) {
+            for (int left = 0; left < 3; left++) {
+                holds(left + " " + signs[sign] + " 1", want[sign][left]);
+                holds("not " + left + " " + signs[sign] + " 1", !want[sign][left]);
+                holds("not not " + left + " " + signs[sign] + " 1", want[sign][left]);
+                holds(left + " - 1 " + signs[sign] + " 0", want[sign][left]);
+                holds("bright - 1 + " + left + " " + signs[sign] + " bright", want[sign][left]);
+            }
+        }
+    }
+
+    @Sentence({"COND: ALL {'or' ALL}.", "ALL: LIT {'and' LIT}."})
+    static void promise15AndAheadOfOr() {
+        String[] lits = {"2 < 1", "1 < 2", "not 1 < 2", "not 2 < 1"};
+        for (int i = 0; i < 64; i++) {
+            String a = lits[i & 3];
+            String b = lits[i >> 2 & 3];
+            String c = lits[i >> 4];
+            boolean isA = (i & 1) == 1;
+            boolean isB = (i >> 2 & 1) == 1;
+            boolean isC = (i >> 4 & 1) == 1;
+            holds(a, isA);
+            holds(a + " and " + b, isA && isB);
+            holds(a + " or " + b, isA || isB);
+            holds(a + " and " + b + " and " + c, isA && isB && isC);
+            holds(a + " or " + b + " or " + c, isA || isB || isC);
+            holds(a + " and " + b + " or " + c, isA && isB || isC);
+            holds(a + " or " + b + " and " + c, isA || isB && isC);
+        }
+    }
+
+    @Sentence({"E: PART {('+' | '-') PART}.", "PART: UNIT {('*' | '/') UNIT}.", "UNIT: INT | VAR | '(' E ')'."})
+    static void promise16PartsAheadOfSums() {
+        worth("9 - 3 - 2", 4);
+        worth("9 - (3 - 2)", 8);
+        worth("9 - 3 + 2", 8);
+        worth("9 + 3 * 2", 15);
+        worth("(9 + 3) * 2", 24);
+        worth("100 / 5 / 2", 10);
+        worth("100 / (5 / 2)", 50);
+        worth("7 / 2 * 2", 6);
+        worth("7 * 2 / 2", 7);
+        worth("20 - 7 / 2 * 2 - 1", 13);
+        worth("2 * 3 + 4 * 5 - 6 / 2", 23);
     }
 
     @Sentence("a LIT with a division by 0 does not hold, its not does")
@@ -737,6 +794,29 @@ public final class LightEdgesTest extends Trial {
         due("its COND does not hold", lit("price p 8 if 1 / 0 == 0; price q 3;").price(), 3);
         due("its COND holds", lit("price p 8 if not 1 / 0 == 0; price q 3;").price(), 8);
         due("one of them holds", lit("price p 8 if 1 < 2 or 1 / 0 == 0; price q 3;").price(), 8);
+    }
+
+    @Sentence("an E with one is 0 as a whole")
+    static void promise16ADivisionByZeroIsNotRemembered() {
+        CutStones x = told("stuff s: 1000 0; cut a 'x#; grade g if 8 / flaws == 8; price p 8 / flaws;");
+        for (int i = 0; i < 3; i++) {
+            x.shine(0, 0, 0, 1000, 0, 0, 0, 0);
+            due("no STEP in a FLAW", x.price(), 0);
+            due("grade", x.grade(), -2);
+            x.shine(0, 0, 0, 1000, 0, 0, 1, 1);
+            due("one STEP in a FLAW", x.price(), 8);
+            due("grade", x.grade(), 0);
+        }
+        CutStones y = told("stuff s: 1000 0; cut a 'x#; price p 8 / flaws;");
+        for (int i = 0; i < 3; i++) {
+            y.shine(0, 0, 0, 1000, 0, 0, 0, 0);
+            due("no STEP in a FLAW", y.price(), 0);
+            y.shine(0, 0, 0, 1000, 0, 0, 1, 1);
+            due("one STEP in a FLAW", y.price(), 8);
+        }
+        CutStones z = lit("price p 1 / 0; grade g if 1 < 2;");
+        due("price", z.price(), 0);
+        due("the PRICE's E does not touch the GRADE's COND", z.grade(), 0);
     }
 
     @Sentence("VARS by a SHINE: bright, leak, dark, weight, uneven, flaws, wide, colour.")

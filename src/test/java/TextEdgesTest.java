@@ -592,6 +592,10 @@ public final class TextEdgesTest extends Trial {
         }
         fault("cut abcdefgh '#; cut abcdefgi '#; cut bbcdefgh '#; cut @abcdefgh '#; cut abcdefgi '#;", TWICE);
         fault("cut a '#; cut b '#; cut c '#; cut d '#; cut e '#; cut f '#; rough @f '#;", TWICE);
+        for (char c = 'a'; c <= 'z'; c++) {
+            String same = String.valueOf(c);
+            fault("cut " + same + " '#; cut " + times(2, same) + " '#; cut " + times(7, same) + " '#; cut " + times(8, same) + " '#;", 0);
+        }
         fault("cut a '#; cut @a '#; cut a '#;", TWICE);
         // a VAR's letters are no NAME, nor is a NAME one for an E
         fault("price a 1; price b @a;", SYNTAX);
@@ -735,6 +739,55 @@ public final class TextEdgesTest extends Trial {
         x.shine(0, 0, 0, 1, 1, 1, 1, 0);
         due("no GRADE", x.grade(), -2);
         due("no PRICE", x.price(), 0);
+    }
+
+    @Sentence({"A text with a FAULT changes nothing;", "else it is in place of the one ahead"})
+    static void promise04ManyTextsInARow() {
+        String full = times(12, " '############");
+        String[] texts = {
+            "stuff a: 500 0; stuff b: 900 9 eats 9; cut c" + full + "; rough d" + full + "; grade e if 2 < 1; grade f if bright < 1 / 0; price g 5 if 2 < 1; price h 6;",
+            "stuff a: 400 0; cut c '#.. '..#; rough d '### '###; rough e '#; price g 7 + bright * leak if 1 < 2;",
+            "stuff a: 600 0; cut c '#; cut d '1; rough e '##; grade f if 1 < 2;",
+            "stuff a: 500 10; cut c '.# '#.; rough d '#1 '.#;",
+            "",
+        };
+        String[] bad = {";", "cut a '#; rough b '# '#; cut a '#;", "stuff a: 1 1; grade b if 1 < 2; price c 9; cut d '.;", "price a 1 + (((((((1"};
+        for (int from = 0; from < 5; from++) {
+            for (int by = 1; by < 5; by++) {
+                CutStones x = new CutStones();
+                String text = "";
+                for (int i = 0; i < 3; i++) {
+                    feedText(x, bad[(from + i) % 4]);
+                    due("a FAULT", x.read() != 0 ? 1 : 0, 1);
+                    text = texts[(from + i * by) % 5];
+                    tell(x, text);
+                }
+                asIfFirst(x, told(text));
+            }
+        }
+    }
+
+    @Sentence({"2 ROOM: a 501st TOKEN;", "else it is in place of the one ahead"})
+    static void promise04LongTextsInARow() {
+        CutStones x = new CutStones();
+        for (int i = 0; i < 5; i++) {
+            String head = "stuff s: 1 1;cut a '#;price b " + i;
+            // 6, 4 and 3 tokens, so many times two, and the last
+            String text = head + times(243, "+1") + ";";
+            tell(x, text);
+            x.shine(0, 0, 0, 0, 0, 0, 1, 0);
+            due("price", x.price(), 243 + i);
+            feedText(x, text + "cut c '#;");
+            due("a token too many", x.read(), ROOM);
+            due("price", x.price(), 243 + i);
+        }
+    }
+
+    private static void asIfFirst(CutStones x, CutStones first) {
+        due("as if it were the first text", state(x).equals(state(first)) ? 1 : 0, 1);
+        due("shine", x.shine(0, 0, 0, 1000, 10, 10, 0, 0), first.shine(0, 0, 0, 1000, 10, 10, 0, 0));
+        due("dearest", x.dearest(1, 0, 0), first.dearest(1, 0, 0));
+        due("as if it were the first text", state(x).equals(state(first)) ? 1 : 0, 1);
     }
 
     @Sentence("The byte of the latest read()'s FAULT; NONE without.")
