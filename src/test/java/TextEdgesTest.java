@@ -1,3 +1,4 @@
+import java.util.ArrayList;
 import java.util.List;
 
 /** Promises 1 to 5, and what the document's Terms say of texts: each boundary by a test of its own. */
@@ -476,14 +477,54 @@ public final class TextEdgesTest extends Trial {
             "price", "e", "1", "+", "wide", "-", "1", "*", "2", "/", "3", "if", "1", "<=", "2", ";",
         };
         StringBuilder ahead = new StringBuilder();
+        Grammar grammar = new Grammar();
         for (String token : all) {
-            // none of these goes on anywhere
-            fault(ahead + "@=", SYNTAX);
-            fault(ahead + "@'", SYNTAX);
-            fault(ahead + "@12345", SYNTAX);
+            eachTokenBehind(ahead.toString(), all, grammar);
+            due("the text goes on", grammar.goOn(kindOf(token)) ? 1 : 0, 1);
             ahead.append(token).append(' ');
         }
+        eachTokenBehind(ahead.toString(), all, grammar);
         fault(ahead.toString(), 0);
+    }
+
+    /** Any one token, or what is none, behind the tokens ahead, and then the text's end. */
+    private static void eachTokenBehind(String ahead, String[] all, Grammar grammar) {
+        List<String> tries = new ArrayList<>(List.of(WORDS));
+        tries.addAll(List.of(";", ":", ",", "+", "-", "*", "/", "==", "!=", "<", "<=", "(", ")", "name", "5", "'#"));
+        for (String token : tries) {
+            boolean goesOn = startsWith(ahead, all).goOn(kindOf(token));
+            if (!goesOn) {
+                fault(ahead + "@" + token, SYNTAX);
+            } else if (!token.equals(";")) {
+                fault(ahead + token + "@", SYNTAX);
+            }
+        }
+        for (String none : new String[] {"=", "!", ">", "'", "12345", "abcdefghi", "A", "'#############"}) {
+            fault(ahead + "@" + none, SYNTAX);
+        }
+        due("the text may end", grammar.mayEnd() ? 1 : 0, ahead.isEmpty() || ahead.endsWith("; ") ? 1 : 0);
+    }
+
+    /** A grammar that has gone on with those of all tokens that stand ahead. */
+    private static Grammar startsWith(String ahead, String[] all) {
+        Grammar grammar = new Grammar();
+        int at = 0;
+        for (int i = 0; at < ahead.length(); i++) {
+            grammar.goOn(kindOf(all[i]));
+            at += all[i].length() + 1;
+        }
+        return grammar;
+    }
+
+    private static String kindOf(String token) {
+        char first = token.charAt(0);
+        if (first == '\'') {
+            return "ROW";
+        }
+        if (Character.isDigit(first)) {
+            return "INT";
+        }
+        return Character.isLetter(first) && !List.of(WORDS).contains(token) ? "NAME" : token;
     }
 
     @Sentence("2 ROOM: a 501st TOKEN;")
