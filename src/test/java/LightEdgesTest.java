@@ -755,6 +755,24 @@ public final class LightEdgesTest extends Trial {
         worth("2 * 3 + 4 * 5 - 6 / 2", 23);
     }
 
+    @Sentence({"GRADE: the first GRADE that holds", "a 7th ( within one another"})
+    static void promise16DeepestRuleBehindAllOthers() {
+        String deep = "1";
+        int value = 1;
+        for (int i = 0; i < 6; i++) {
+            deep = "1 + 2 * (" + deep + ")";
+            value = 1 + 2 * value;
+        }
+        StringBuilder rules = new StringBuilder();
+        for (int i = 0; i < 7; i++) {
+            char letter = (char) ('a' + i);
+            rules.append("grade g").append(letter).append(" if 2 < 1; price p").append(letter).append(" 5 if 2 < 1;");
+        }
+        CutStones x = lit(rules + "grade gh if " + deep + " == " + deep + " and not " + deep + " < 1; price ph " + deep + " if 1 < " + deep + ";");
+        due("the eighth GRADE", x.grade(), 7);
+        due("the eighth PRICE", x.price(), value);
+    }
+
     @Sentence("a LIT with a division by 0 does not hold, its not does")
     static void promise15LitWithADivisionByZero() {
         for (String sign : new String[] {"==", "!=", "<", "<="}) {

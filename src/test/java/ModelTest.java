@@ -240,7 +240,7 @@ public final class ModelTest {
     private void drawing(List<String> tokens, String kind) {
         tokens.addAll(Arrays.asList(kind, name()));
         boolean rough = kind.equals("rough");
-        int most = rough && chance(60) ? 12 : 6;
+        int most = chance(rough ? 60 : 15) ? 12 : 6;
         int wide = 1 + below(most);
         int high = 1 + below(most);
         boolean even = chance(30);

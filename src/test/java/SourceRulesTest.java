@@ -5,7 +5,10 @@ import java.nio.charset.StandardCharsets;
 import java.nio.file.Files;
 import java.nio.file.Paths;
 import java.util.ArrayList;
+import java.util.Arrays;
 import java.util.List;
+import java.util.Map;
+import java.util.TreeMap;
 import java.util.regex.Matcher;
 import java.util.regex.Pattern;
 
@@ -18,6 +21,9 @@ public final class SourceRulesTest {
     };
     private static final int MOST_METHOD_LINES = 60;
     private static final int MOST_PARAMETERS = 7;
+    private static final int MOST_CALLS_DEEP = 8;
+    private static final int MOST_CLASSES = 12;
+    private static final int MOST_FIELDS = 20;
 
     private static int wrong = 0;
 
@@ -73,6 +79,7 @@ public final class SourceRulesTest {
         String[] lines = code.split("\n");
         List<String> open = new ArrayList<>();
         List<String> shown = new ArrayList<>();
+        Map<String, String> bodies = new TreeMap<>();
         for (int i = 0; i < lines.length; i++) {
             Matcher m = Pattern.compile("^( {4}| {8})(public |private |static |final )*[A-Za-z\\[\\]]+ (\\w+)\\(([^)]*)\\) \\{$")
                     .matcher(lines[i]);
@@ -86,6 +93,11 @@ public final class SourceRulesTest {
             if (end - i + 1 > MOST_METHOD_LINES) {
                 fail(m.group(3) + " has " + (end - i + 1) + " lines");
             }
+            String body = String.join("\n", Arrays.asList(lines).subList(i + 1, end));
+            bodies.merge(m.group(3), body, String::concat);
+            if (Pattern.compile("\\bnew\\b").matcher(body).find()) {
+                fail(m.group(3) + " makes an object; what is made by a call is counted over all calls of a run");
+            }
             boolean face = lines[i].contains("public ");
             (face ? shown : open).add(m.group(3));
             int parameters = m.group(4).isEmpty() ? 0 : m.group(4).split(",").length;
@@ -97,6 +109,36 @@ public final class SourceRulesTest {
             if (shown.contains(name)) {
                 fail("a method bears a public one's name: " + name);
             }
+        }
+        for (String name : shown) {
+            List<String> chain = deepest(name, bodies, new ArrayList<>());
+            if (chain.size() > MOST_CALLS_DEEP) {
+                fail("calls go too deep: " + chain);
+            }
+        }
+    }
+
+    /** The longest chain of calls from a method on in which none stands twice; methods of one name are taken as one. */
+    private static List<String> deepest(String name, Map<String, String> bodies, List<String> ahead) {
+        List<String> chain = new ArrayList<>(ahead);
+        chain.add(name);
+        List<String> longest = chain;
+        for (String other : bodies.keySet()) {
+            if (!chain.contains(other) && Pattern.compile("\\b" + other + "\\(").matcher(bodies.get(name)).find()) {
+                List<String> found = deepest(other, bodies, chain);
+                longest = found.size() > longest.size() ? found : longest;
+            }
+        }
+        return longest;
+    }
+
+    private static void fieldsOf(Class<?> type) {
+        int fields = 0;
+        for (Field field : type.getDeclaredFields()) {
+            fields += Modifier.isStatic(field.getModifiers()) ? 0 : 1;
+        }
+        if (fields > MOST_FIELDS) {
+            fail(type + " has " + fields + " fields");
         }
     }
 
@@ -120,7 +162,12 @@ public final class SourceRulesTest {
         if (!Modifier.isFinal(CutStones.class.getModifiers()) || CutStones.class.getConstructors().length != 1) {
             fail("the class is to be final, with one public constructor");
         }
+        fieldsOf(CutStones.class);
+        if (CutStones.class.getDeclaredClasses().length + 1 > MOST_CLASSES) {
+            fail("classes: " + (CutStones.class.getDeclaredClasses().length + 1));
+        }
         for (Class<?> inside : CutStones.class.getDeclaredClasses()) {
+            fieldsOf(inside);
             if (!Modifier.isStatic(inside.getModifiers()) || Modifier.isPublic(inside.getModifiers())) {
                 fail("a class inside that is public or not static: " + inside);
             }
